@@ -673,8 +673,7 @@ public final class LikeTales {
         private Net from = new Net();
         private Net to = from;
         private int weighing = BY_WORTH;
-        // Whether the order of moments matters.
-        boolean timed = false;
+        final Timing timing = new Timing();
         final int[] partners = new int[THINGS];
         final int[] answers = new int[TIES];
         // For each tie: those of the other tale that may answer it, by what is decided so far.
@@ -698,8 +697,7 @@ public final class LikeTales {
             from = newFrom;
             to = newTo;
             weighing = newWeighing;
-            // One moment alone cannot be out of order.
-            timed = isTimed && from.countOfMoments() > 1 && to.countOfMoments() > 1;
+            timing.take(newFrom, newTo, isTimed);
             for (int i = 0; i < from.ties; i++) {
                 compareTie(i, level);
             }
@@ -761,10 +759,12 @@ public final class LikeTales {
             int weight = 0;
             int cameTo = 0;
             for (int i = 0; i < from.ties; i++) {
-                answers[i] = firstInStep(i, reachable(i) & ~cameTo);
-                likely[i] = answers[i] == NOTHING ? 0 : 1 << answers[i];
-                cameTo |= likely[i];
-                weight += gain(from.heights[i], likely[i] & one[i], likely[i] & near[i], likely[i]);
+                int mask = reachable(i) & ~cameTo;
+                answers[i] = firstOf(timing.matters ? timing.inStep(i, mask, answers) : mask);
+                int bit = answers[i] == NOTHING ? 0 : 1 << answers[i];
+                likely[i] = bit;
+                cameTo |= bit;
+                weight += gain(from.heights[i], bit & one[i], bit & near[i], bit);
             }
             return weight;
         }
@@ -782,8 +782,13 @@ public final class LikeTales {
                 any |= mask;
                 anyOne |= mask & one[i];
                 anyNear |= mask & near[i];
-                weight += gain(from.heights[i], mask & one[i], mask & near[i], mask);
+                if (timing.matters && timing.isOrdered(i, mask)) {
+                    spread(i, mask);
+                } else {
+                    weight += gain(from.heights[i], mask & one[i], mask & near[i], mask);
+                }
             }
+            weight += timing.matters ? timing.heaviestOrder() : 0;
             // Each tie of the other tale answers once, so what they can give is a bound as well.
             int given = 0;
             for (int j = 0; j < to.ties; j++) {
@@ -854,37 +859,23 @@ public final class LikeTales {
             return mask;
         }
 
-        private int firstInStep(int i, int mask) {
+        private int firstOf(int mask) {
             for (int j = 0; j < to.ties && mask >> j != 0; j++) {
-                if ((mask >> j & 1) != 0 && (!timed || isInStep(i, j))) {
+                if ((mask >> j & 1) != 0) {
                     return j;
                 }
             }
             return NOTHING;
         }
 
-        /** Whether the moments of both ties stand to those that answer already in the same order. */
-        private boolean isInStep(int i, int j) {
-            int here = from.moments[i];
-            int there = to.moments[j];
-            if (here == NOTHING || there == NOTHING) {
-                return true;
-            }
-            for (int k = 0; k < i; k++) {
-                if (answers[k] != NOTHING) {
-                    int hereBefore = from.moments[k];
-                    int thereBefore = to.moments[answers[k]];
-                    boolean haveMoments = hereBefore != NOTHING && thereBefore != NOTHING;
-                    if (haveMoments && order(hereBefore, here) != order(thereBefore, there)) {
-                        return false;
-                    }
+        /** What tie i may weigh with each moment of the other tale. */
+        private void spread(int i, int mask) {
+            for (int m = 0; m < DIGITS; m++) {
+                int there = mask & timing.atMoment[m];
+                if (there != 0) {
+                    timing.add(i, m, gain(from.heights[i], there & one[i], there & near[i], there));
                 }
             }
-            return true;
-        }
-
-        private static int order(int one, int other) {
-            return one < other ? -1 : one > other ? 1 : 0;
         }
 
         /** How many pairs of things have one sort. */
@@ -897,6 +888,93 @@ public final class LikeTales {
                 }
             }
             return count;
+        }
+    }
+
+    /** The order of moments in two tales. */
+    private static final class Timing {
+        private Net from = new Net();
+        private Net to = from;
+        // Whether an answer can be out of order.
+        boolean matters = false;
+        // For each moment: the ties of the other tale at it, and those ahead of it.
+        final int[] atMoment = new int[DIGITS];
+        private final int[] ahead = new int[DIGITS];
+        private int withMoments = 0;
+        // What may be won with a moment of the one and a moment of the other tale.
+        private final int[] weights = new int[DIGITS * DIGITS];
+        private final int[] heaviest = new int[DIGITS];
+
+        void take(Net newFrom, Net newTo, boolean isTimed) {
+            from = newFrom;
+            to = newTo;
+            // One moment alone cannot be out of order.
+            matters = isTimed && from.countOfMoments() > 1 && to.countOfMoments() > 1;
+            withMoments = 0;
+            for (int m = 0; m < DIGITS; m++) {
+                ahead[m] = withMoments;
+                atMoment[m] = 0;
+                for (int j = 0; j < to.ties; j++) {
+                    atMoment[m] |= to.moments[j] == m ? 1 << j : 0;
+                }
+                withMoments |= atMoment[m];
+            }
+        }
+
+        /** The mask without the ties that would answer tie i out of order with those that answer already. */
+        int inStep(int i, int mask, int[] answers) {
+            int left = mask;
+            for (int k = 0; k < i && k < answers.length && left != 0; k++) {
+                if (answers[k] != NOTHING) {
+                    left &= ~outOfStep(i, k, answers[k]);
+                }
+            }
+            return left;
+        }
+
+        private int outOfStep(int i, int before, int answer) {
+            int here = from.moments[i];
+            int hereBefore = from.moments[before];
+            int thereBefore = to.moments[answer];
+            if (here == NOTHING || hereBefore == NOTHING || thereBefore == NOTHING) {
+                return 0;
+            }
+            if (here == hereBefore) {
+                return withMoments & ~atMoment[thereBefore];
+            }
+            boolean isBehind = here > hereBefore;
+            return isBehind ? ahead[thereBefore] | atMoment[thereBefore] : withMoments & ~ahead[thereBefore];
+        }
+
+        /** Whether tie i has a moment, and all of the mask have. */
+        boolean isOrdered(int i, int mask) {
+            return from.moments[i] != NOTHING && (mask & ~withMoments) == 0;
+        }
+
+        /** Adds what tie i may weigh with that moment of the other tale. */
+        void add(int i, int moment, int weight) {
+            int here = from.moments[i];
+            if (here != NOTHING) {
+                weights[here * DIGITS + moment] += weight;
+            }
+        }
+
+        /** The most of what was added that can be had in order; then all is taken away again. */
+        int heaviestOrder() {
+            for (int there = 0; there < DIGITS; there++) {
+                heaviest[there] = 0;
+            }
+            for (int here = 0; here < DIGITS; here++) {
+                for (int there = DIGITS - 1; there >= 0; there--) {
+                    int before = there > 0 ? heaviest[there - 1] : 0;
+                    heaviest[there] = Math.max(heaviest[there], before + weights[here * DIGITS + there]);
+                    weights[here * DIGITS + there] = 0;
+                }
+                for (int there = 1; there < DIGITS; there++) {
+                    heaviest[there] = Math.max(heaviest[there], heaviest[there - 1]);
+                }
+            }
+            return heaviest[DIGITS - 1];
         }
     }
 
@@ -975,7 +1053,7 @@ public final class LikeTales {
             answering.take(a, b, level, timed, weighing);
             countsSorts = weighing != BY_COUNT;
             // Without moments a further pair never takes an answer away, so the best have all pairs they can.
-            spare = answering.timed ? from.things : Math.max(0, from.things - to.things);
+            spare = answering.timing.matters ? from.things : Math.max(0, from.things - to.things);
             bestWorth = NOTHING;
             bestPairs = NOTHING;
             for (int x = 0; x < from.things; x++) {

@@ -1,9 +1,14 @@
+import java.lang.reflect.Method;
 import java.util.ArrayList;
+import java.util.HashMap;
 import java.util.List;
+import java.util.Map;
 import java.util.Random;
 
 /** Runs of random calls, each answered by LikeTales as by PlainTales. Told a number, it does that many runs. */
 public final class RandomRunsTest {
+    private static final Map<String, Method> CALLS_OF_MADE = methodsOf(LikeTales.class);
+    private static final Map<String, Method> CALLS_OF_PLAIN = methodsOf(PlainTales.class);
     private final Random random;
     private final LikeTales made = new LikeTales();
     private final PlainTales plain = new PlainTales();
@@ -25,7 +30,7 @@ public final class RandomRunsTest {
     }
 
     public static void main(String[] args) {
-        int runs = args.length > 0 ? Integer.parseInt(args[0]) : 1500;
+        int runs = args.length > 0 ? Integer.parseInt(args[0]) : 6000;
         int first = args.length > 1 ? Integer.parseInt(args[1]) : 0;
         int bad = 0;
         for (int seed = first; seed < first + runs && bad < 3; seed++) {
@@ -199,8 +204,8 @@ public final class RandomRunsTest {
         if (wrong) {
             return;
         }
-        int got = answerOfMade(call, v);
-        int due = answerOfPlain(call, v);
+        int got = answerOf(made, CALLS_OF_MADE.get(call), v);
+        int due = answerOf(plain, CALLS_OF_PLAIN.get(call), v);
         StringBuilder line = new StringBuilder(call).append('(');
         for (int i = 0; i < v.length; i++) {
             line.append(i > 0 ? ", " : "").append(v[i]);
@@ -209,75 +214,24 @@ public final class RandomRunsTest {
         wrong |= got != due;
     }
 
-    private int answerOfMade(String call, int[] v) {
-        LikeTales x = made;
-        switch (call) {
-            case "kind": return x.kind(v[0], v[1], v[2] == 1);
-            case "wider": return x.wider(v[0], v[1]);
-            case "opposite": return x.opposite(v[0], v[1]);
-            case "ofKind": return x.ofKind(v[0], v[1]);
-            case "alike": return x.alike(v[0], v[1]);
-            case "timed": return x.timed(v[0]);
-            case "tale": return x.tale(v[0], v[1]);
-            case "sort": return x.sort(v[0], v[1], v[2]);
-            case "label": return x.label(v[0], v[1]);
-            case "tie": return x.tie(v[0], v[1], v[2], v[3], v[4], v[5]);
-            case "ofTie": return x.ofTie(v[0], v[1], v[2]);
-            case "ofTale": return x.ofTale(v[0], v[1]);
-            case "copy": return x.copy(v[0], v[1]);
-            case "like": return x.like(v[0], v[1], v[2]);
-            case "partner": return x.partner(v[0]);
-            case "answer": return x.answer(v[0]);
-            case "likes": return x.likes(v[0], v[1], v[2], v[3]);
-            case "worth": return x.worth(v[0], v[1], v[2], v[3]);
-            case "same": return x.same(v[0], v[1]);
-            case "guess": return x.guess(v[0]);
-            case "ofGuess": return x.ofGuess(v[0], v[1]);
-            case "giveUp": return x.giveUp();
-            case "bound": return x.bound(v[0], v[1]);
-            case "seek": return x.seek(v[0]);
-            case "sought": return x.sought(v[0]);
-            case "common": return x.common(v[0], v[1], v[2], v[3]);
-            case "series": return x.series(v[0], v[1], v[2], v[3]);
-            case "leftOut": return x.leftOut(v[0], v[1]);
-            case "trial": return x.trial(v[0]);
-            default: throw new IllegalArgumentException(call);
+    private static Map<String, Method> methodsOf(Class<?> c) {
+        Map<String, Method> found = new HashMap<>();
+        for (Method m : c.getDeclaredMethods()) {
+            found.put(m.getName(), m);
         }
+        return found;
     }
 
-    private int answerOfPlain(String call, int[] v) {
-        PlainTales x = plain;
-        switch (call) {
-            case "kind": return x.kind(v[0], v[1], v[2] == 1);
-            case "wider": return x.wider(v[0], v[1]);
-            case "opposite": return x.opposite(v[0], v[1]);
-            case "ofKind": return x.ofKind(v[0], v[1]);
-            case "alike": return x.alike(v[0], v[1]);
-            case "timed": return x.timed(v[0]);
-            case "tale": return x.tale(v[0], v[1]);
-            case "sort": return x.sort(v[0], v[1], v[2]);
-            case "label": return x.label(v[0], v[1]);
-            case "tie": return x.tie(v[0], v[1], v[2], v[3], v[4], v[5]);
-            case "ofTie": return x.ofTie(v[0], v[1], v[2]);
-            case "ofTale": return x.ofTale(v[0], v[1]);
-            case "copy": return x.copy(v[0], v[1]);
-            case "like": return x.like(v[0], v[1], v[2]);
-            case "partner": return x.partner(v[0]);
-            case "answer": return x.answer(v[0]);
-            case "likes": return x.likes(v[0], v[1], v[2], v[3]);
-            case "worth": return x.worth(v[0], v[1], v[2], v[3]);
-            case "same": return x.same(v[0], v[1]);
-            case "guess": return x.guess(v[0]);
-            case "ofGuess": return x.ofGuess(v[0], v[1]);
-            case "giveUp": return x.giveUp();
-            case "bound": return x.bound(v[0], v[1]);
-            case "seek": return x.seek(v[0]);
-            case "sought": return x.sought(v[0]);
-            case "common": return x.common(v[0], v[1], v[2], v[3]);
-            case "series": return x.series(v[0], v[1], v[2], v[3]);
-            case "leftOut": return x.leftOut(v[0], v[1]);
-            case "trial": return x.trial(v[0]);
-            default: throw new IllegalArgumentException(call);
+    private static int answerOf(Object x, Method call, int[] v) {
+        Object[] told = new Object[v.length];
+        for (int i = 0; i < v.length; i++) {
+            boolean isFlag = call.getParameterTypes()[i] == boolean.class;
+            told[i] = isFlag ? (Object) (v[i] == 1) : (Object) v[i];
+        }
+        try {
+            return (Integer) call.invoke(x, told);
+        } catch (ReflectiveOperationException e) {
+            throw new IllegalStateException(call.getName(), e);
         }
     }
 }
