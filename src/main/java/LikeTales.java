@@ -27,24 +27,37 @@ public final class LikeTales {
     private static final int BY_COUNT = 1;
     private static final int BY_SAMENESS = 2;
 
-    private final Language language = new Language();
-    private final Net[] tales = new Net[TALES];
-    private final Answering answering = new Answering(language);
-    private final Search search = new Search(answering);
-    private final Kept kept = new Kept();
+    private final Language language;
+    private final Net[] tales;
+    private final Answering answering;
+    private final Search search;
+    private final Kept kept;
     // Guesses by a pairing that is only tried.
-    private final Guesses triedGuesses = new Guesses(kept.from, answering.partners, answering.answers);
-    private final Weaver weaver = new Weaver(language, answering);
-    private final Seeker seeker = new Seeker(tales, search);
+    private final Guesses triedGuesses;
+    private final Weaver weaver;
+    private final Seeker seeker;
     private boolean timed = false;
     private boolean hasSought = false;
     private int soughtHeld = 0;
     private int soughtWorth = NONE;
 
     public LikeTales() {
+        Language kinds = new Language();
+        Answering answers = new Answering(kinds);
+        Search pairings = new Search(answers);
+        Kept likeness = new Kept();
+        Net[] nets = new Net[TALES];
         for (int t = 0; t < TALES; t++) {
-            tales[t] = new Net();
+            nets[t] = new Net();
         }
+        language = kinds;
+        tales = nets;
+        answering = answers;
+        search = pairings;
+        kept = likeness;
+        triedGuesses = new Guesses(likeness.from, answers.partners, answers.answers);
+        weaver = new Weaver(kinds, answers);
+        seeker = new Seeker(nets, pairings);
     }
 
     // ---- 1 the language, tales
@@ -1148,11 +1161,21 @@ public final class LikeTales {
         boolean isThere = false;
         int level = 0;
         boolean timed = false;
-        final Net from = new Net();
+        final Net from;
         final Net to = new Net();
-        final int[] partners = new int[THINGS];
-        final int[] answers = new int[TIES];
-        final Guesses guesses = new Guesses(from, partners, answers);
+        final int[] partners;
+        final int[] answers;
+        final Guesses guesses;
+
+        Kept() {
+            Net net = new Net();
+            int[] pairing = new int[THINGS];
+            int[] answering = new int[TIES];
+            from = net;
+            partners = pairing;
+            answers = answering;
+            guesses = new Guesses(net, pairing, answering);
+        }
 
         void take(Net a, Net b, int newLevel, boolean isTimed) {
             isThere = true;
