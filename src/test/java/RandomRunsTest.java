@@ -201,7 +201,8 @@ public final class RandomRunsTest {
     }
 
     private void same(String call, int... v) {
-        if (wrong) {
+        // The document promises nothing of what later calls answer.
+        if (wrong || told.size() >= 512) {
             return;
         }
         int got = answerOf(made, CALLS_OF_MADE.get(call), v);
