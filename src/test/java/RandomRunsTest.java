@@ -1,5 +1,7 @@
 import java.lang.reflect.Method;
 import java.util.ArrayList;
+import java.util.Arrays;
+import java.util.Collections;
 import java.util.HashMap;
 import java.util.List;
 import java.util.Map;
@@ -16,7 +18,7 @@ public final class RandomRunsTest {
     private boolean wrong = false;
     // How the run is shaped.
     private final int kinds, tales, things, ties, sorts;
-    private final boolean moments, odd;
+    private final boolean moments, odd, twins;
 
     private RandomRunsTest(int seed) {
         random = new Random(seed);
@@ -27,6 +29,7 @@ public final class RandomRunsTest {
         sorts = 1 + random.nextInt(random.nextBoolean() ? 2 : 10);
         moments = random.nextBoolean();
         odd = random.nextInt(4) == 0;
+        twins = random.nextInt(3) == 0;
     }
 
     public static void main(String[] args) {
@@ -72,12 +75,23 @@ public final class RandomRunsTest {
             }
         }
         int links = random.nextInt(30);
+        // Links between few kinds meet in one tale more often.
+        int few = random.nextBoolean() ? 16 : Math.min(16, kinds + 2);
+        for (int k = 0; k < 15 && !wrong; k++) {
+            if (twins && random.nextInt(3) > 0) {
+                same("opposite", k, k + 1);
+            }
+        }
         for (int i = 0; i < links && !wrong; i++) {
-            same(random.nextInt(3) == 0 ? "opposite" : "wider", random.nextInt(16), random.nextInt(16));
+            same(random.nextInt(3) == 0 ? "opposite" : "wider", random.nextInt(few), random.nextInt(few));
         }
     }
 
     private void tellTale(int t) {
+        if (t > 0 && random.nextInt(4) < (twins ? 3 : 1)) {
+            tellTwin(random.nextInt(t), t);
+            return;
+        }
         if (t > 0 && random.nextInt(5) == 0) {
             same("copy", random.nextInt(t), t);
         } else {
@@ -92,6 +106,73 @@ public final class RandomRunsTest {
         for (int i = 0; i < count && !wrong; i++) {
             tellTie(t);
         }
+    }
+
+    /** Tells tale t as tale u is, with the things named otherwise, the ties in another order, and a few faults. */
+    private void tellTwin(int u, int t) {
+        PlainTales.Tale first = plain.tales[u];
+        List<Integer> names = shuffled(first.sorts.size());
+        boolean faulty = random.nextInt(3) > 0;
+        same("tale", t, names.size());
+        for (int x = 0; x < names.size() && !wrong; x++) {
+            same("sort", t, names.get(x), faulty && random.nextInt(6) == 0 ? random.nextInt(sorts) : first.sorts.get(x));
+        }
+        same("label", t, first.label);
+        int[] numbers = new int[first.ties.size()];
+        Arrays.fill(numbers, -1);
+        // A tie waits for those at its ends, so each round tells at least the lowest that wait.
+        for (int round = 0; round < numbers.length && !wrong; round++) {
+            for (int i : shuffled(numbers.length)) {
+                if (numbers[i] == -1 && !(faulty && random.nextInt(8) == 0)) {
+                    int kind = first.ties.get(i).kind;
+                    int told = faulty && random.nextInt(twins ? 2 : 4) == 0 ? kindNextTo(kind) : kind;
+                    numbers[i] = tellTwinTie(t, told, first.ties.get(i), names, numbers);
+                }
+            }
+        }
+    }
+
+    /** The opposite of a kind, or one that is alike at some level. */
+    private int kindNextTo(int kind) {
+        if (plain.opposite[kind] != -1 && random.nextBoolean()) {
+            return plain.opposite[kind];
+        }
+        List<Integer> alike = new ArrayList<>();
+        for (int k = 0; k < 16; k++) {
+            if (plain.alikeAt(kind, k, 2)) {
+                alike.add(k);
+            }
+        }
+        return alike.get(random.nextInt(alike.size()));
+    }
+
+    /** The number of the tie told, or -1. */
+    private int tellTwinTie(int t, int kind, PlainTales.Tie tie, List<Integer> names, int[] numbers) {
+        int[] e = {-1, -1, -1};
+        for (int p = 0; p < tie.ends.size(); p++) {
+            int end = tie.ends.get(p);
+            if (end >= 10 && numbers[end - 10] == -1) {
+                return -1;
+            }
+            e[p] = end < 10 ? names.get(end) : 10 + numbers[end - 10];
+        }
+        if (plain.even[kind] && random.nextBoolean()) {
+            int former = e[0];
+            e[0] = e[1];
+            e[1] = former;
+        }
+        int number = plain.tales[t].ties.size();
+        same("tie", t, kind, e[0], e[1], e[2], random.nextInt(20) == 0 ? -1 : tie.moment);
+        return plain.tales[t].ties.size() > number ? number : -1;
+    }
+
+    private List<Integer> shuffled(int count) {
+        List<Integer> all = new ArrayList<>();
+        for (int i = 0; i < count; i++) {
+            all.add(i);
+        }
+        Collections.shuffle(all, random);
+        return all;
     }
 
     private void tellTie(int t) {
